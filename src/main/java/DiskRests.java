@@ -560,7 +560,7 @@ public final class DiskRests {
         }
 
         private int meanOfLast(int wanted) {
-            int taken = Math.min(wanted, restsEnded);
+            int taken = wanted < restsEnded ? wanted : restsEnded;
             int sum = 0;
             for (int i = restsEnded - taken; i < restsEnded; i++) {
                 sum += rests[i];

@@ -46,6 +46,11 @@ public final class RestsTest {
         for (int wrong : new int[] {-1, 3, MIN, MAX}) {
             Due.due("15 least(0, wrong)", x.least(0, wrong), DiskRests.OUTSIDE);
         }
+        DiskRests barely = new DiskRests();
+        barely.deeper(0, 9, 1);
+        barely.request(1, 0, 0);  // of 1 tick as dear as level 0
+        barely.request(3, 0, 0);  // of 2 ticks less by 1
+        dueLeast("15 barely worth it", barely, 0, 10 + 19 + 97 * 9, 3, 2);
         DiskRests all = new DiskRests();
         for (int i = 0; i < 40; i++) {
             all.request(i * 2 + 1, 3, 0);
@@ -97,6 +102,12 @@ public final class RestsTest {
         Due.due("16 both on day 0", x.limited(2, 30, 1), 300 - 10 - 150);
         Due.due("16 one on day 1", x.limited(2, 29, 1), 300 - 10 - 190);
         Due.due("16 both on day 1", x.limited(2, 20, 1), 300 - 10 - 150);
+        x.power(2, 100);
+        x.deeper(2, 0, 50);
+        x.request(28, 2, 1);
+        // Gaps save 1950, 750, 50; to the end, 100.
+        Due.due("16 days of 1 tick", x.limited(2, 1, 1), 3000 - 100 - 2750);
+        Due.due("16 days of 2 ticks", x.limited(2, 2, 1), 3000 - 100 - 2700);
     }
 
     private static void alikeOnOneDay() {
@@ -157,6 +168,7 @@ public final class RestsTest {
         dueWorst("STEPS of 4, the least ticks of many", x, 1000, 2, 1, 5);
         x.policy(0, 1, 1);
         dueWorst("STEPS of 1", x, 1000, 5, 2, 2);
+        dueWorst("STEPS of 1, up to 1", x, 1, 1, 1, 1);
         x.policy(0, 1, 500);
         dueWorst("STEPS of 500, up to 500", x, 500, 125, 1, 500);
         dueWorst("STEPS of 500, up to 501", x, 501, 126, 1, 501);
@@ -174,6 +186,19 @@ public final class RestsTest {
             Due.due("18 worst(0, 1, wrong)", x.worst(0, 1, wrong), DiskRests.OUTSIDE);
         }
         largeFractions();
+        nearFractions();
+    }
+
+    /** Costs so low that one unit more in any of them would be seen. */
+    private static void nearFractions() {
+        DiskRests x = new DiskRests();
+        x.power(0, 1);
+        dueWorst("a POWER of 1", x, 1000, 1, 1, 1);
+        x.power(0, 2);
+        x.deeper(0, 1, 1);
+        x.policy(0, 1, 1);
+        // 2 by 2, then 2 + (t - 1) + 1 by t + 1: never more than 2 + 1 + 1 by 3.
+        dueWorst("POWERS of 2 and 1", x, 1000, 4, 3, 2);
     }
 
     /** Costs of some 100,000 each, whose products an int does not hold. */
@@ -219,6 +244,10 @@ public final class RestsTest {
         x.power(0, 100);
         x.deeper(0, 99, 1);
         dueDrawn("B is 1", x, 1, 7, 7 * 99 + 1, 1, 1);
+        x.deeper(1, 9, 999);
+        Due.due("19 B is 999", x.drawn(1, 1, 1, 2), 999);
+        Due.due("19 B is 999, upper", x.drawn(1, 1, 1, 0), 9 + 999 + 998 * 10);
+        Due.due("19 B is 999, lower", x.drawn(1, 1, 1, 1), 999);
         x.deeper(0, 98, 999);
         dueDrawn("B is 500", x, 2, 1000, 98999 + 499, 1, 500);
     }

@@ -10,6 +10,7 @@ public final class RunTest {
         promise14Waiting();
         promise20Count();
         policiesTellLevels();
+        sleepsAtOnceIfForetold();
         requestsOfOneTickByNumber();
         journalIsSharedByDisks();
         theRunIsAsIfDoneAnew();
@@ -45,6 +46,8 @@ public final class RunTest {
         int before12 = 3 * 10 + 4 * 10 + 4 * 4 + 1 * 1;
         int from12 = 70 + 4 * 10 + 4 * 4 + 10 * 1;
         dueOfDisk("11", x, 0, before12 + from12, 1, 1, 2, 2, 1, 2, 18, 2, 6);
+        x.at(0, 0, 0);
+        dueOfDisk("11 after an earlier tick", x, 0, before12 + from12, 1, 1, 2, 2, 1, 2, 18, 2, 6);
         dueOfDisk("11 another disk", x, 1, 300, 0, 0, 0, 0, 0, 0, 30, 0, DiskRests.NONE);
     }
 
@@ -126,6 +129,11 @@ public final class RunTest {
         dueFates("13 end behind its tick", x, 1, 2, 3, 4, 6, 5);
         x.journal(0);
         dueFates("13 no room", x, 1, 2, 3, 6, 3, 6);
+        DiskRests one = new DiskRests();
+        one.request(40, 0, 0);
+        Due.due("13 fate(0)", one.fate(0), 1);
+        one.end(40);
+        Due.due("13 fate(0), an earlier end", one.fate(0), 0);
         for (int wrong : new int[] {-1, 6, 40, MIN, MAX}) {
             Due.due("13 fate(wrong)", x.fate(wrong), DiskRests.UNKNOWN);
         }
@@ -179,6 +187,9 @@ public final class RunTest {
         Due.due("20 count(6), the second", x.count(6), 2);
         x.image(0);
         Due.due("20 count(6), both", x.count(6), 3);
+        x.forget(0);
+        Due.due("20 count(4), one less", x.count(4), 0);
+        Due.due("20 count(5), one less", x.count(5), 2);
         for (int wrong : new int[] {-1, 7, MIN, MAX}) {
             Due.due("20 count(wrong)", x.count(wrong), DiskRests.OUTSIDE);
         }
@@ -210,6 +221,20 @@ public final class RunTest {
             int want = tick < 4 ? 0 : tick < 7 ? 1 : tick < 20 ? 0 : tick < 34 ? 2 : 3;
             Due.due("FORETOLD by 1, " + tick, x.at(0, tick, 0), want);
         }
+    }
+
+    private static void sleepsAtOnceIfForetold() {
+        DiskRests x = new DiskRests();
+        x.deeper(0, 1, 12);
+        x.policy(0, 3, 1);
+        x.request(10, 0, 0);
+        x.request(10, 0, 1);
+        x.request(11, 0, 0);
+        x.request(12, 0, 0);
+        x.end(13);
+        // In tick 10 it is at level 1 by a guess of 10, in tick 11 at level 0 by a guess of 1.
+        dueFates("foretold", x, 1, 3, 2, 1);
+        dueOfDisk("foretold", x, 0, 100 + 1 + 12 + 10 + 10, 1, 3, 1, 0, 0, 3, 1, 0, 1);
     }
 
     private static void requestsOfOneTickByNumber() {
@@ -263,8 +288,14 @@ public final class RunTest {
         x.image(0);
         x.end(20);
         Due.due("anew, another end", x.disk(0, 0), 200);
+        x.end(100);
+        Due.due("anew, the end as before", x.disk(0, 0), 49 * 10 + 51);
+        x.policy(0, 0, 0);
+        Due.due("anew, STAY again", x.disk(0, 0), 1000);
         x.restore(0);
         Due.due("anew, restored", x.disk(0, 0), 49 * 10 + 51);
+        x.deeper(0, 0, 10);
+        Due.due("anew, deeper", x.disk(0, 0), 49 * 10 + 49);
         x.power(0, 20);
         Due.due("anew, another power", x.disk(0, 0), 2000);
     }

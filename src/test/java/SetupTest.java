@@ -251,6 +251,7 @@ public final class SetupTest {
 
     private static void changeAll(DiskRests x) {
         x.power(1, 41);
+        x.deeper(1, 30, 77);
         x.deeper(0, 2, 9);
         x.policy(1, 2, 0);
         x.policy(2, 0, 0);
