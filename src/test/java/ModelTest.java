@@ -2,7 +2,7 @@ import java.util.Random;
 
 /** Promises 1 to 22: drawn runs of calls (always the same ones), each answer beside that of the model. */
 public final class ModelTest {
-    private static final int RUNS = 400, CALLS = 400;
+    private static final int RUNS = 400, CALLS = 512;
 
     private final Random random;
     private final DiskRests x = new DiskRests();
