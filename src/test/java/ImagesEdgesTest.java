@@ -25,7 +25,8 @@ public final class ImagesEdgesTest {
 
     private static void promise21Kept() {
         Doc.says("DISKS are kept", "deeper(2, 5, 50); deeper(2, 3, 60); power(3, 77); image(0); power(2, 20); power(3, 1)",
-            "deeper(0, 1, 1); restore(0); level(2, 0, 0) = 10; level(2, 1, 0) = 5; level(2, 1, 1) = 50",
+            "deeper(2, 19, 1); deeper(2, 18, 2); deeper(2, 17, 3); deeper(0, 1, 1); restore(0)",
+            "level(2, 0, 0) = 10; level(2, 0, 1) = 0; level(2, 1, 0) = 5; level(2, 1, 1) = 50",
             "level(2, 2, 0) = 3; level(2, 2, 1) = 60; level(2, 3, 0) = UNKNOWN; level(3, 0, 0) = 77; level(0, 1, 0) = UNKNOWN");
         Doc.says("POLICIES are kept, with n", "deeper(0, 5, 5); policy(0, 1, 7); policy(1, 3, 2); policy(2, 2, 0); image(1)",
             "request(4, 1, 0); request(10, 1, 0); request(40, 1, 0); policy(0, 1, 3); policy(1, 3, 1); policy(2, 0, 0)",

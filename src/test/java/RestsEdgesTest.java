@@ -108,6 +108,9 @@ public final class RestsEdgesTest {
         Doc.says("the TICK at which they end, not that at which they begin",
             "deeper(0, 0, 5); request(30, 0, 0); request(59, 0, 0); limited(0, 30, 1) = " + (5 + 290),
             "limited(0, 31, 1) = 10; limited(0, 29, 1) = 10; forget(1); request(60, 0, 0); limited(0, 30, 1) = 10");
+        Doc.says("DAYS of one TICK: of each DAY is one GAP at the most",
+            "power(0, 100); deeper(0, 0, 50); request(28, 0, 0); request(29, 0, 0); limited(0, 1, 1) = 100",
+            "limited(0, 2, 1) = 150; limited(0, 2, 2) = 100; limited(0, 1, 0) = 2900");
         Doc.says("of those of each DAY at most n", Doc.join(
             Doc.rows("deeper(0, 0, 5)"), forty(),
             Doc.rows("limited(0, 1, 1) = 200; limited(0, 2, 1) = 200; limited(0, 3, 1) = " + (800 - 27 * 15)),
@@ -193,6 +196,10 @@ public final class RestsEdgesTest {
             "deeper(0, 9, 5); worst(0, 5, 0) = 1; worst(0, 5, 1) = 1; worst(0, 5, 2) = 1; worst(0, 6, 0) = 60",
             "worst(0, 6, 1) = 59; worst(0, 6, 2) = 6; worst(0, 1000, 0) = 2000; worst(0, 1000, 1) = 1801",
             "worst(0, 1000, 2) = 1000");
+        // From 523 ticks on what these fractions are compared by goes beyond what an int holds.
+        Doc.says("the greatest: of the greatest POWERS and WAKE", "power(0, 100); deeper(0, 99, 999); policy(0, 1, 400)",
+            "worst(0, 400, 2) = 1; worst(0, 1000, 0) = " + (40000 + 99 + 999) / 2 + "; worst(0, 1000, 1) = " + 40100 / 2,
+            "worst(0, 1000, 2) = 401");
         Doc.says("LEAST (of a GAP of so many TICKS, not to END): with its WAKE",
             "deeper(0, 0, 999); end(1); worst(0, 99, 0) = 1; worst(0, 99, 2) = 1; worst(0, 100, 0) = 1000",
             "worst(0, 100, 1) = 999; worst(0, 100, 2) = 100");
@@ -233,6 +240,10 @@ public final class RestsEdgesTest {
             "drawn(0, 1, 2, 0) = " + (30 + 40 + 20) / 3 + "; drawn(0, 1, 2, 1) = 1",
             "drawn(0, 1, 3, 0) = " + (30 + 40 + 50) / 3 + "; drawn(0, 1, 3, 1) = 1",
             "drawn(0, 1, 4, 0) = 40; drawn(0, 1, 1000, 0) = 40; drawn(0, 1, 1000, 1) = 1");
+        Doc.says("from this AGE on the DISK is at LEVEL l, before at LEVEL 0",
+            "deeper(0, 3, 20); drawn(0, 1, 1, 0) = " + (23 + 10 + 10) + "; drawn(0, 1, 1, 1) = 3",
+            "drawn(0, 1, 2, 0) = " + (26 + 33 + 20) + "; drawn(0, 1, 2, 1) = 3",
+            "drawn(0, 1, 3, 0) = " + (29 + 36 + 43) / 3 + "; drawn(0, 1, 3, 1) = 1; drawn(0, 1, 1000, 0) = " + (3020 + 7));
         Doc.says("an AGE of 0 to B less 1 is drawn: B is 1", "deeper(0, 4, 6); drawn(0, 1, 1, 2) = 1",
             "drawn(0, 1, 1, 0) = 10; drawn(0, 1, 1, 1) = 1; drawn(0, 1, 1000, 0) = 4006; drawn(0, 1, 1000, 1) = 1");
         Doc.says("an AGE of 0 to B less 1 is drawn, each alike: the greatest B",

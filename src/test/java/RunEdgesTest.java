@@ -59,6 +59,12 @@ public final class RunEdgesTest {
             "fate(0) = 4; fate(1) = 2; at(0, 3, 1) = 3; fate(2) = 5; at(0, 2, 0) = 1; waiting(0) = 2; disk(0, 4) = 2",
             "at(0, 4, 0) = 1; disk(0, 4) = 2; at(0, 4, 0) = 1; disk(0, 1) = 1; at(0, 4, 0) = 1; disk(0, 6) = 1",
             "at(0, 4, 0) = 1; disk(0, 9) = 9; at(0, 4, 0) = 1; count(5) = 1; at(0, 4, 0) = 1; disk(0, 7) = 91");
+        Doc.says("it is as if it were done anew whenever it is asked for: each call that changes what it is of",
+            "end(10); policy(0, 1, 2); disk(0, 0) = 100; deeper(0, 5, 7); disk(0, 0) = 60; deeper(0, 1, 9); disk(0, 0) = 36",
+            "policy(0, 1, 1); disk(0, 0) = 23; image(0); disk(0, 0) = 23; request(5, 0, 1); disk(0, 0) = " + (18 + 9 + 18),
+            "journal(1); disk(0, 0) = 23; waiting(0) = 0; end(12); disk(0, 0) = 25; end(4); disk(0, 0) = 17; waiting(0) = NONE",
+            "end(12); waiting(0) = 0; forget(0); waiting(0) = NONE; request(5, 0, 0); disk(0, 0) = " + (18 + 9 + 20),
+            "forget(0); disk(0, 0) = 25; restore(0); disk(0, 0) = 23; power(0, 3); disk(0, 0) = 30; count(3) = 330");
     }
 
     private static void ageAtFirst() {
