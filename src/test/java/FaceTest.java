@@ -36,12 +36,17 @@ public final class FaceTest {
                 Modifier.isPublic(all[0].getModifiers()) && all[0].getParameterCount() == 0);
     }
 
-    private static void methods() {
-        Set<String> open = new TreeSet<>();
+    private static Set<String> namesOfTheFace() {
         Set<String> names = new TreeSet<>();
         for (String row : FACE) {
             names.add(row.substring(0, row.indexOf(' ')));
         }
+        return names;
+    }
+
+    private static void methods() {
+        Set<String> open = new TreeSet<>();
+        Set<String> names = namesOfTheFace();
         for (Method m : DiskRests.class.getDeclaredMethods()) {
             if (Modifier.isPrivate(m.getModifiers())) {
                 Due.holds("a name of its own: " + m.getName(), !names.contains(m.getName()));
@@ -83,6 +88,11 @@ public final class FaceTest {
             Due.holds("at most twenty fields: " + c, c.getDeclaredFields().length <= 20);
             for (Method method : c.getDeclaredMethods()) {
                 Due.holds("at most seven parameters: " + method, method.getParameterCount() <= 7);
+                Due.holds("a name of its own: " + method, !namesOfTheFace().contains(method.getName()));
+            }
+            for (Field field : c.getDeclaredFields()) {
+                int f = field.getModifiers();
+                Due.holds("static fields are final: " + field, Modifier.isFinal(f) || !Modifier.isStatic(f));
             }
         }
     }
